@@ -72,7 +72,7 @@ public final class DistancesTest {
 
     private static void commonOnesComeAndGo() {
         FaultHeaps x = new FaultHeaps();
-        // 1 stands in 4 of 5; behind the sixth 2 is in 5 of 6 and 1 in 4 of 6: REPORT 3 has as many FRAMES left as ahead.
+        // 1 and 2 stand in 4 of 5; behind the sixth 2 is in 5 of 6, but 1 in 4 of 6.
         Due.tell(x, 0, 1, 2, 7);
         Due.tell(x, 0, 1, 2, 8);
         Due.tell(x, 0, 1, 2);
@@ -101,9 +101,13 @@ public final class DistancesTest {
         due.same("nothing against 3 frames", x.distance(4, 0), 6);
         due.same("nothing against itself", x.distance(4, 4), 0);
         due.row("common ones stay in the row", x, 4, 3);
-        // 1 2 1 2 would fold; what is left without the common 3 is not folded again.
-        due.same("1 3 1", Due.tell(x, 0, 1, 3, 1), 5);
-        due.same("nothing against 1 1", x.distance(4, 5), 4);
+        // REPORT 0 is as it was, so only the new one tells that their distance must be told.
+        due.same("another one", Due.tell(x, 0, 3), 5);
+        due.same("nothing against 3 frames again", x.distance(5, 0), 6);
+        due.same("nothing against nothing", x.distance(5, 4), 0);
+        // What is left without the common 3 is not folded again.
+        due.same("1 3 1", Due.tell(x, 0, 1, 3, 1), 6);
+        due.same("nothing against 1 1", x.distance(4, 6), 4);
     }
 
     private static void countedOnceAReport() {
