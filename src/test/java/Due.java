@@ -21,6 +21,15 @@ final class Due {
         same(call, got ? 1 : 0, 0);
     }
 
+    /** What an object shows of itself now is what it showed ahead. */
+    void unchanged(String when, FaultHeaps x, String ahead) {
+        String now = Seen.of(x);
+        if (!now.equals(ahead)) {
+            wrong++;
+            System.out.println(when + ": [" + now + "], due is [" + ahead + "]");
+        }
+    }
+
     /** The HEAP of every REPORT, from REPORT 0 on. */
     void heaps(String when, FaultHeaps x, int... due) {
         for (int r = 0; r < due.length; r++) {
