@@ -1,4 +1,5 @@
 import java.lang.management.ManagementFactory;
+import java.lang.management.ThreadMXBean;
 import java.lang.reflect.Array;
 import java.lang.reflect.Field;
 import java.lang.reflect.Modifier;
@@ -14,10 +15,12 @@ import java.util.Set;
 public final class RoomTest {
     private static final int MOST_OBJECTS = 1000;
     private static final int MOST_FIELDS = 20000;
-    // Far below one text or row a call, for what the machine makes when it first runs a call.
+    // Far below one object a call; it leaves room for what the machine may make when it first runs a line.
     private static final int MOST_BYTES = 4096;
 
     private static final Due due = new Due();
+    // Kept, as asking for it makes objects, too.
+    private static final ThreadMXBean threads = ManagementFactory.getThreadMXBean();
 
     public static void main(String[] args) throws IllegalAccessException {
         FaultHeaps x = new FaultHeaps();
@@ -36,7 +39,7 @@ public final class RoomTest {
     }
 
     private static long bytesMade() {
-        if (ManagementFactory.getThreadMXBean() instanceof com.sun.management.ThreadMXBean counted) {
+        if (threads instanceof com.sun.management.ThreadMXBean counted) {
             return counted.getCurrentThreadAllocatedBytes();
         }
         return 0;
